@@ -31,9 +31,9 @@ public final class SelfEndingCodes {
 
     // The 89th of 1, 2, 3, 5, .. is the last that is not above 2^62.
     private static final int FIBONACCI_NUMBERS = 89;
-    // 2^62 takes four groups: each tells the bits of the next one, so more can't be needed.
+    // No number takes more than the four of 2^62: this only lets the end of a loop be seen.
     private static final int OMEGA_GROUPS = 8;
-    // Halving 1 .. 2^62 + 1 comes to an end within 63 steps.
+    // Halving 1 .. 2^62 + 1 ends within 63 steps: this only lets the end of a loop be seen.
     private static final int HALVINGS = 64;
 
     private final BitRow row;
@@ -519,7 +519,7 @@ public final class SelfEndingCodes {
     private long readGamma() {
         for (int zeros = 0; zeros < MOST_BITS_OF_NUMBER; zeros++) {
             if (row.readBit() == 1) {
-                return numberOrNone(row.readBitsAfterOne(zeros));
+                return numberOrNone(row.readBits(1, zeros));
             }
         }
         return NONE;
@@ -530,7 +530,7 @@ public final class SelfEndingCodes {
         if (bits == NONE || bits > MOST_BITS_OF_NUMBER) {
             return NONE;
         }
-        return numberOrNone(row.readBitsAfterOne((int) bits - 1));
+        return numberOrNone(row.readBits(1, (int) bits - 1));
     }
 
     private long readOmega() {
@@ -542,7 +542,7 @@ public final class SelfEndingCodes {
             if (n >= MOST_BITS_OF_NUMBER) {
                 return NONE;
             }
-            n = row.readBitsAfterOne((int) n);
+            n = row.readBits(1, (int) n);
         }
         return NONE;
     }
@@ -569,7 +569,7 @@ public final class SelfEndingCodes {
         if (width == 0) {
             return quotient + 1;
         }
-        long rest = row.readBits(width - 1);
+        long rest = row.readBits(0, width - 1);
         if (rest >= shortRests) {
             rest = 2 * rest + row.readBit() - shortRests;
         }
@@ -581,7 +581,7 @@ public final class SelfEndingCodes {
         if (highAndOne == NONE || (highAndOne - 1) >> (BITS_BELOW_GREATEST - p) != 0) {
             return NONE;
         }
-        return ((highAndOne - 1) << p) + row.readBits(p) + 1;
+        return ((highAndOne - 1) << p) + row.readBits(0, p) + 1;
     }
 
     private long readGroups(int p) {
@@ -589,7 +589,7 @@ public final class SelfEndingCodes {
         for (int groups = 0; groups < BITS_BELOW_GREATEST; groups++) {
             int shift = groups * p;
             int follows = row.readBit();
-            long group = row.readBits(p);
+            long group = row.readBits(0, p);
             if (shift >= BITS_BELOW_GREATEST || group >> (BITS_BELOW_GREATEST - shift) != 0) {
                 return NONE;
             }
@@ -649,9 +649,9 @@ public final class SelfEndingCodes {
 
         void appendOnesAndZero(long ones) {
             for (int k = 0; k < ones && k < ROW_ROOM; k++) {
-                appendBits(1, 1);
+                setOne(end + k);
             }
-            appendBits(0, 1);
+            end += (int) ones + 1;
         }
 
         int readBit() {
@@ -660,17 +660,14 @@ public final class SelfEndingCodes {
             return bit;
         }
 
-        long readBits(int width) {
-            long value = 0;
+        /** What the bits of a front that is known, and so many more from the row, are together. */
+        long readBits(long front, int width) {
+            long value = front;
             for (int k = 0; k < width; k++) {
-                value = 2 * value + readBit();
+                value = 2 * value + bitAt(cursor + k);
             }
+            cursor += width;
             return value;
-        }
-
-        /** What a 1 that has been read and so many bits more are together. */
-        long readBitsAfterOne(int width) {
-            return (1L << width) | readBits(width);
         }
 
         int readOnesAndZero() {

@@ -1,3 +1,5 @@
+import java.util.Arrays;
+
 /** Each promise by itself: ordinary inputs, the edges that the document names, wrong inputs. */
 public final class PromisesTest {
     private static final long TOP = 4611686018427387904L;
@@ -122,27 +124,17 @@ public final class PromisesTest {
             }
             numbers[many++] = (1L << b) / 3 * 2;
         }
-        long one = 1000;
+        long one = 987;
         long next = 1597;
-        while (next < TOP && next > 0) {
+        while (next < TOP) {
+            numbers[many++] = next - 1;
+            numbers[many++] = next;
+            numbers[many++] = next + 1;
+            long sum = one + next;
             one = next;
-            numbers[many++] = one - 1;
-            numbers[many++] = one;
-            numbers[many++] = one + 1;
-            next = fibonacciAfter(one);
+            next = sum;
         }
-        return java.util.Arrays.copyOf(numbers, many);
-    }
-
-    private static long fibonacciAfter(long one) {
-        long a = 1;
-        long b = 2;
-        while (a <= one) {
-            long sum = a + b;
-            a = b;
-            b = sum;
-        }
-        return a;
+        return Arrays.copyOf(numbers, many);
     }
 
     // ---- promises
@@ -407,6 +399,10 @@ public final class PromisesTest {
             CHECKS.illegal(call("push", 5, n), () -> x.push(5, n));
         }
         CHECKS.due("size() after pushes that throw", x.size(), 136);
+        SelfEndingCodes clean = withRow("0");
+        clean.push(-1L, 64);
+        clean.push(0, 64);
+        CHECKS.due("push(-1, 64) writes 64 bits alone", clean.bits(65), 0);
         SelfEndingCodes full = filled(4090);
         CHECKS.due("push(0, 7) without room", full.push(0, 7), -1);
         CHECKS.due("push(0, 64) without room", full.push(0, 64), -1);
