@@ -2,22 +2,8 @@ import java.util.Arrays;
 
 /** Each promise by itself: ordinary inputs, the edges that the document names, wrong inputs. */
 public final class PromisesTest {
-    private static final long TOP = 4611686018427387904L;
+    private static final long TOP = Samples.TOP;
     private static final int[] ALL_KINDS = {0, 1, 2, 3, 4, 5, 6, 7};
-    private static final int[][] CODES = {
-        {0, 0}, {1, 0}, {2, 0}, {3, 0}, {4, 0},
-        {5, 1}, {5, 2}, {5, 3}, {5, 4}, {5, 5}, {5, 7}, {5, 10}, {5, 64}, {5, 1000}, {5, 999999}, {5, 1000000},
-        {6, 0}, {6, 1}, {6, 2}, {6, 5}, {6, 31}, {6, 32}, {6, 39}, {6, 40},
-        {7, 1}, {7, 2}, {7, 3}, {7, 4}, {7, 5}, {7, 7}, {7, 8}, {7, 15}, {7, 16},
-    };
-    private static final int[][] NO_CODES = {
-        {-1, 0}, {8, 0}, {8, 1}, {Integer.MIN_VALUE, 0}, {Integer.MAX_VALUE, 1},
-        {0, 1}, {0, -1}, {1, 1}, {1, -1}, {2, 1}, {2, -1}, {3, 1}, {3, -1}, {4, 1}, {4, -1},
-        {5, 0}, {5, -1}, {5, 1000001}, {5, Integer.MAX_VALUE}, {5, Integer.MIN_VALUE},
-        {6, -1}, {6, 41}, {6, Integer.MIN_VALUE}, {7, 0}, {7, -1}, {7, 17}, {7, Integer.MAX_VALUE},
-    };
-    private static final long[] NO_NUMBERS = {0, -1, TOP + 1, Long.MAX_VALUE, Long.MIN_VALUE};
-
     private static final Checks CHECKS = new Checks();
 
     public static void main(String[] args) {
@@ -53,60 +39,9 @@ public final class PromisesTest {
 
     // ---- helpers
 
-    private static String call(String name, Object... arguments) {
-        StringBuilder text = new StringBuilder(name).append('(');
-        for (int i = 0; i < arguments.length; i++) {
-            text.append(i == 0 ? "" : ", ").append(arguments[i]);
-        }
-        return text.append(')').toString();
-    }
-
-    private static String rowText(SelfEndingCodes x) {
-        StringBuilder text = new StringBuilder();
-        for (int i = 0; i < x.size(); i++) {
-            text.append(x.bits(i) < 0 ? '1' : '0');
-        }
-        return text.toString();
-    }
-
-    private static SelfEndingCodes withRow(String bits) {
-        SelfEndingCodes x = new SelfEndingCodes();
-        for (int i = 0; i < bits.length(); i++) {
-            x.push(bits.charAt(i) == '1' ? Long.MIN_VALUE : 0, 1);
-        }
-        return x;
-    }
-
-    private static SelfEndingCodes withList(long... numbers) {
-        SelfEndingCodes x = new SelfEndingCodes();
-        for (long n : numbers) {
-            x.add(n);
-        }
-        return x;
-    }
-
-    private static String listText(SelfEndingCodes x) {
-        StringBuilder text = new StringBuilder();
-        for (int i = 0; i < 101; i++) {
-            int at = i;
-            String got = Checks.outcome(() -> x.get(at));
-            if (got.startsWith("throws")) {
-                break;
-            }
-            text.append(i == 0 ? "" : " ").append(got);
-        }
-        return text.toString();
-    }
-
-    private static SelfEndingCodes filled(int bits) {
-        SelfEndingCodes x = new SelfEndingCodes();
-        for (int i = 0; i < bits / 64; i++) {
-            x.push(-1L, 64);
-        }
-        if (bits % 64 > 0) {
-            x.push(-1L, bits % 64);
-        }
-        return x;
+    /** Another object for each call, where one would be asked more than its 512. */
+    private static SelfEndingCodes fresh() {
+        return new SelfEndingCodes();
     }
 
     private static long[] numbersToTry() {
@@ -152,67 +87,68 @@ public final class PromisesTest {
         x.put(1, 0, 5);
         x.add(3);
         CHECKS.due("another object's size()", other.size(), 0);
-        CHECKS.due("another object's list", listText(other), "");
+        CHECKS.due("another object's list", Samples.listText(other), "");
     }
 
     private static void promise2Length() {
-        SelfEndingCodes x = new SelfEndingCodes();
-        for (int[] code : CODES) {
+        for (int[] code : Samples.CODES) {
             for (long n : numbersToTry()) {
-                CHECKS.due(call("length", code[0], code[1], n), x.length(code[0], code[1], n),
+                CHECKS.due(Samples.call("length", code[0], code[1], n), fresh().length(code[0], code[1], n),
                     Model.length(code[0], code[1], n));
             }
         }
-        CHECKS.due("length(0, 0, 2^62)", x.length(0, 0, TOP), TOP);
-        CHECKS.due("length(1, 0, 2^62)", x.length(1, 0, TOP), 125);
-        CHECKS.due("length(2, 0, 2^62)", x.length(2, 0, TOP), 73);
-        CHECKS.due("length(3, 0, 2^62)", x.length(3, 0, TOP), 75);
-        CHECKS.due("length(4, 0, 2^62)", x.length(4, 0, TOP), 90);
-        CHECKS.due("length(5, 1, 2^62)", x.length(5, 1, TOP), TOP);
-        CHECKS.due("length(5, 2, 2^62)", x.length(5, 2, TOP), TOP / 2 + 1);
-        CHECKS.due("length(6, 0, 2^62)", x.length(6, 0, TOP), 125);
-        CHECKS.due("length(7, 1, 2^62)", x.length(7, 1, TOP), 124);
-        for (int[] code : NO_CODES) {
-            CHECKS.illegal(call("length", code[0], code[1], 1), () -> x.length(code[0], code[1], 1));
+        CHECKS.due("length(0, 0, 2^62)", fresh().length(0, 0, TOP), TOP);
+        CHECKS.due("length(1, 0, 2^62)", fresh().length(1, 0, TOP), 125);
+        CHECKS.due("length(2, 0, 2^62)", fresh().length(2, 0, TOP), 73);
+        CHECKS.due("length(3, 0, 2^62)", fresh().length(3, 0, TOP), 75);
+        CHECKS.due("length(4, 0, 2^62)", fresh().length(4, 0, TOP), 90);
+        CHECKS.due("length(5, 1, 2^62)", fresh().length(5, 1, TOP), TOP);
+        CHECKS.due("length(5, 2, 2^62)", fresh().length(5, 2, TOP), TOP / 2 + 1);
+        CHECKS.due("length(6, 0, 2^62)", fresh().length(6, 0, TOP), 125);
+        CHECKS.due("length(7, 1, 2^62)", fresh().length(7, 1, TOP), 124);
+        for (int[] code : Samples.NO_CODES) {
+            CHECKS.illegal(Samples.call("length", code[0], code[1], 1), () -> fresh().length(code[0], code[1], 1));
         }
-        for (int[] code : CODES) {
-            for (long n : NO_NUMBERS) {
-                CHECKS.illegal(call("length", code[0], code[1], n), () -> x.length(code[0], code[1], n));
+        for (int[] code : Samples.CODES) {
+            for (long n : Samples.NO_NUMBERS) {
+                CHECKS.illegal(Samples.call("length", code[0], code[1], n), () -> fresh().length(code[0], code[1], n));
             }
         }
-        CHECKS.due("length() leaves the row", x.size(), 0);
+        SelfEndingCodes x = Samples.withRow("10");
+        x.length(1, 0, 5);
+        CHECKS.due("length() leaves the row", Samples.rowText(x), "10");
     }
 
     private static void promise3Put() {
-        for (int[] code : CODES) {
+        for (int[] code : Samples.CODES) {
             for (long n : numbersToTry()) {
                 if (Model.length(code[0], code[1], n) > 1200) {
                     continue;
                 }
-                SelfEndingCodes x = withRow("101");
+                SelfEndingCodes x = Samples.withRow("101");
                 String want = "101" + Model.codeword(code[0], code[1], n);
-                CHECKS.due(call("put", code[0], code[1], n), x.put(code[0], code[1], n), want.length());
-                CHECKS.due(call("put", code[0], code[1], n) + " writes", rowText(x), want);
-                CHECKS.due(call("put", code[0], code[1], n) + " place()", x.place(), 0);
+                CHECKS.due(Samples.call("put", code[0], code[1], n), x.put(code[0], code[1], n), want.length());
+                CHECKS.due(Samples.call("put", code[0], code[1], n) + " writes", Samples.rowText(x), want);
+                CHECKS.due(Samples.call("put", code[0], code[1], n) + " place()", x.place(), 0);
             }
         }
-        SelfEndingCodes x = withRow("11");
-        for (int[] code : NO_CODES) {
-            CHECKS.illegal(call("put", code[0], code[1], 1), () -> x.put(code[0], code[1], 1));
+        SelfEndingCodes x = Samples.withRow("11");
+        for (int[] code : Samples.NO_CODES) {
+            CHECKS.illegal(Samples.call("put", code[0], code[1], 1), () -> x.put(code[0], code[1], 1));
         }
         for (int kind : ALL_KINDS) {
-            for (long n : NO_NUMBERS) {
+            for (long n : Samples.NO_NUMBERS) {
                 int p = kind == 5 || kind == 7 ? 1 : 0;
-                CHECKS.illegal(call("put", kind, p, n), () -> x.put(kind, p, n));
+                CHECKS.illegal(Samples.call("put", kind, p, n), () -> x.put(kind, p, n));
             }
         }
-        CHECKS.due("row after puts that throw", rowText(x), "11");
+        CHECKS.due("row after puts that throw", Samples.rowText(x), "11");
     }
 
     private static void putsCodeword(int kind, int p, long n, String want) {
         SelfEndingCodes x = new SelfEndingCodes();
         x.put(kind, p, n);
-        CHECKS.due(call("codeword", kind, p, n), rowText(x), want);
+        CHECKS.due(Samples.call("codeword", kind, p, n), Samples.rowText(x), want);
     }
 
     private static void promise3PutOfTheDocumentsKinds() {
@@ -252,77 +188,77 @@ public final class PromisesTest {
         CHECKS.due("put(1, 0, 1) to a full row", x.put(1, 0, 1), -1);
         CHECKS.illegal("put(1, 0, 0) to a full row", () -> x.put(1, 0, 0));
         CHECKS.illegal("put(8, 0, 1) to a full row", () -> x.put(8, 0, 1));
-        for (int[] code : CODES) {
+        for (int[] code : Samples.CODES) {
             long n = code[0] == 0 || code[0] == 5 ? 50 : TOP;
             int needed = (int) Model.length(code[0], code[1], n);
-            SelfEndingCodes fits = filled(4096 - needed);
-            CHECKS.due(call("last put", code[0], code[1], n), fits.put(code[0], code[1], n), 4096);
+            SelfEndingCodes fits = Samples.filled(4096 - needed);
+            CHECKS.due(Samples.call("last put", code[0], code[1], n), fits.put(code[0], code[1], n), 4096);
             fits.seek(4096 - needed);
-            CHECKS.due(call("last take", code[0], code[1]), fits.take(code[0], code[1]), n);
+            CHECKS.due(Samples.call("last take", code[0], code[1]), fits.take(code[0], code[1]), n);
             CHECKS.due("place() at the end", fits.place(), 4096);
-            SelfEndingCodes lacks = filled(4097 - needed);
-            CHECKS.due(call("put too long", code[0], code[1], n), lacks.put(code[0], code[1], n), -1);
+            SelfEndingCodes lacks = Samples.filled(4097 - needed);
+            CHECKS.due(Samples.call("put too long", code[0], code[1], n), lacks.put(code[0], code[1], n), -1);
             CHECKS.due("size() then", lacks.size(), 4097 - needed);
         }
     }
 
     private static void promise4Take() {
-        for (int[] code : CODES) {
+        for (int[] code : Samples.CODES) {
             for (long n : numbersToTry()) {
                 if (Model.length(code[0], code[1], n) > 1200) {
                     continue;
                 }
                 String word = Model.codeword(code[0], code[1], n);
                 for (String behind : new String[] {"", "0", "1", "0110"}) {
-                    SelfEndingCodes x = withRow("10" + word + behind);
+                    SelfEndingCodes x = Samples.withRow("10" + word + behind);
                     x.seek(2);
-                    CHECKS.due(call("take", code[0], code[1]) + " of " + n, x.take(code[0], code[1]), n);
-                    CHECKS.due(call("take", code[0], code[1]) + " place()", x.place(), 2 + word.length());
+                    CHECKS.due(Samples.call("take", code[0], code[1]) + " of " + n, x.take(code[0], code[1]), n);
+                    CHECKS.due(Samples.call("take", code[0], code[1]) + " place()", x.place(), 2 + word.length());
                 }
             }
         }
-        SelfEndingCodes x = withRow("1100");
+        SelfEndingCodes x = Samples.withRow("1100");
         x.seek(1);
-        for (int[] code : NO_CODES) {
-            CHECKS.illegal(call("take", code[0], code[1]), () -> x.take(code[0], code[1]));
+        for (int[] code : Samples.NO_CODES) {
+            CHECKS.illegal(Samples.call("take", code[0], code[1]), () -> x.take(code[0], code[1]));
         }
         CHECKS.due("place() after takes that throw", x.place(), 1);
     }
 
     private static void promise4TakeWhereNoneStands() {
-        for (int[] code : CODES) {
+        for (int[] code : Samples.CODES) {
             for (long n : new long[] {1, 2, 3, 4, 7, 12, 100, 1000}) {
                 String word = Model.codeword(code[0], code[1], n);
                 for (int cut = 0; cut < word.length(); cut += Math.max(1, word.length() / 60)) {
-                    SelfEndingCodes x = withRow("01" + word.substring(0, cut));
+                    SelfEndingCodes x = Samples.withRow("01" + word.substring(0, cut));
                     x.seek(2);
-                    CHECKS.due(call("take", code[0], code[1]) + " of " + n + " cut at " + cut,
+                    CHECKS.due(Samples.call("take", code[0], code[1]) + " of " + n + " cut at " + cut,
                         x.take(code[0], code[1]), -1);
                     CHECKS.due("place() after NONE", x.place(), 2);
                 }
             }
         }
-        SelfEndingCodes ones = filled(4096);
+        SelfEndingCodes ones = Samples.filled(4096);
         CHECKS.due("take(0, 0) of 4096 1s", ones.take(0, 0), -1);
         CHECKS.due("take(5, 1) of 4096 1s", ones.take(5, 1), -1);
         CHECKS.due("take(3, 0) of 4096 1s", ones.take(3, 0), -1);
         CHECKS.due("take(7, 16) of 4096 1s", ones.take(7, 16), -1);
         ones.seek(4096);
-        for (int[] code : CODES) {
-            CHECKS.due(call("take", code[0], code[1]) + " at the end", ones.take(code[0], code[1]), -1);
+        for (int[] code : Samples.CODES) {
+            CHECKS.due(Samples.call("take", code[0], code[1]) + " at the end", ones.take(code[0], code[1]), -1);
         }
         CHECKS.due("place() then", ones.place(), 4096);
     }
 
     private static void none(int kind, int p, String bits) {
-        SelfEndingCodes x = withRow(bits);
-        CHECKS.due(call("take", kind, p) + " of " + bits, x.take(kind, p), -1);
+        SelfEndingCodes x = Samples.withRow(bits);
+        CHECKS.due(Samples.call("take", kind, p) + " of " + bits, x.take(kind, p), -1);
         CHECKS.due("place() then", x.place(), 0);
     }
 
     private static void stands(int kind, int p, String bits, long n) {
-        SelfEndingCodes x = withRow(bits);
-        CHECKS.due(call("take", kind, p) + " of " + bits, x.take(kind, p), n);
+        SelfEndingCodes x = Samples.withRow(bits);
+        CHECKS.due(Samples.call("take", kind, p) + " of " + bits, x.take(kind, p), n);
         CHECKS.due("place() then", x.place(), bits.length());
     }
 
@@ -343,7 +279,7 @@ public final class PromisesTest {
         stands(3, 0, "10101" + "111111" + "0", 63);
         none(3, 0, "1010010000" + "1" + "0".repeat(16) + "1" + "0".repeat(3000));
         none(3, 0, "10101" + "111110" + "1" + zeros62 + "1" + "0".repeat(3000));
-        for (int[] code : CODES) {
+        for (int[] code : Samples.CODES) {
             if (code[0] != 0 && code[0] != 5) {
                 stands(code[0], code[1], Model.codeword(code[0], code[1], TOP), TOP);
                 none(code[0], code[1], Model.codeword(code[0], code[1], TOP + 1));
@@ -386,9 +322,9 @@ public final class PromisesTest {
         SelfEndingCodes x = new SelfEndingCodes();
         long v = 0xC3A5F00F12345679L;
         CHECKS.due("push(v, 5)", x.push(v, 5), 5);
-        CHECKS.due("push(v, 5) writes", rowText(x), "11000");
+        CHECKS.due("push(v, 5) writes", Samples.rowText(x), "11000");
         CHECKS.due("push(1, 3)", x.push(1, 3), 8);
-        CHECKS.due("push(1, 3) writes", rowText(x), "11000000");
+        CHECKS.due("push(1, 3) writes", Samples.rowText(x), "11000000");
         CHECKS.due("push(v, 64)", x.push(v, 64), 72);
         CHECKS.due("push(v, 64) writes", x.bits(8), v);
         CHECKS.due("push(v, 1)", x.push(v, 1), 73);
@@ -396,14 +332,14 @@ public final class PromisesTest {
         CHECKS.due("push(v, 63) writes", x.bits(73), v & ~1L);
         CHECKS.due("place() after push", x.place(), 0);
         for (int n : new int[] {0, -1, 65, Integer.MIN_VALUE, Integer.MAX_VALUE}) {
-            CHECKS.illegal(call("push", 5, n), () -> x.push(5, n));
+            CHECKS.illegal(Samples.call("push", 5, n), () -> x.push(5, n));
         }
         CHECKS.due("size() after pushes that throw", x.size(), 136);
-        SelfEndingCodes clean = withRow("0");
+        SelfEndingCodes clean = Samples.withRow("0");
         clean.push(-1L, 64);
         clean.push(0, 64);
         CHECKS.due("push(-1, 64) writes 64 bits alone", clean.bits(65), 0);
-        SelfEndingCodes full = filled(4090);
+        SelfEndingCodes full = Samples.filled(4090);
         CHECKS.due("push(0, 7) without room", full.push(0, 7), -1);
         CHECKS.due("push(0, 64) without room", full.push(0, 64), -1);
         CHECKS.due("size() after pushes without room", full.size(), 4090);
@@ -431,9 +367,9 @@ public final class PromisesTest {
         CHECKS.due("bits(-63)", x.bits(-63), 1);
         CHECKS.due("bits(-64)", x.bits(-64), 0);
         for (int i : new int[] {4095, 4096, 5000, Integer.MAX_VALUE, Integer.MAX_VALUE - 20, Integer.MIN_VALUE, -100}) {
-            CHECKS.due(call("bits", i), x.bits(i), 0);
+            CHECKS.due(Samples.call("bits", i), x.bits(i), 0);
         }
-        SelfEndingCodes full = filled(4096);
+        SelfEndingCodes full = Samples.filled(4096);
         CHECKS.due("bits(4032) of a full row", full.bits(4032), -1L);
         CHECKS.due("bits(4033) of a full row", full.bits(4033), -2L);
         CHECKS.due("bits(4095) of a full row", full.bits(4095), Long.MIN_VALUE);
@@ -454,11 +390,11 @@ public final class PromisesTest {
         x.take(4, 0);
         x.seek(1);
         CHECKS.due("size() after reading", x.size(), 66);
-        CHECKS.due("size() of a full row", filled(4096).size(), 4096);
+        CHECKS.due("size() of a full row", Samples.filled(4096).size(), 4096);
     }
 
     private static void promise8Place() {
-        SelfEndingCodes x = withRow("0010111");
+        SelfEndingCodes x = Samples.withRow("0010111");
         x.take(1, 0);
         CHECKS.due("place()", x.place(), 5);
         x.put(0, 0, 1);
@@ -470,14 +406,14 @@ public final class PromisesTest {
     }
 
     private static void promise9Seek() {
-        SelfEndingCodes x = withRow("00101");
+        SelfEndingCodes x = Samples.withRow("00101");
         for (int to = 5; to >= 0; to--) {
             x.seek(to);
-            CHECKS.due(call("seek", to), x.place(), to);
+            CHECKS.due(Samples.call("seek", to), x.place(), to);
         }
         x.seek(3);
         for (int to : new int[] {-1, 6, 4096, Integer.MIN_VALUE, Integer.MAX_VALUE}) {
-            CHECKS.outOfBounds(call("seek", to), () -> {
+            CHECKS.outOfBounds(Samples.call("seek", to), () -> {
                 x.seek(to);
                 return 0;
             });
@@ -495,94 +431,94 @@ public final class PromisesTest {
     }
 
     private static void promise10Wipe() {
-        SelfEndingCodes x = filled(4096);
+        SelfEndingCodes x = Samples.filled(4096);
         x.add(7);
         x.seek(100);
         CHECKS.due("wipe()", x.wipe(), 4096);
         CHECKS.due("size() then", x.size(), 0);
         CHECKS.due("place() then", x.place(), 0);
         CHECKS.due("bits(0) then", x.bits(0), 0);
-        CHECKS.due("list then", listText(x), "7");
+        CHECKS.due("list then", Samples.listText(x), "7");
         CHECKS.due("wipe() again", x.wipe(), 0);
-        for (int[] code : CODES) {
-            SelfEndingCodes old = filled(2000);
+        for (int[] code : Samples.CODES) {
+            SelfEndingCodes old = Samples.filled(2000);
             old.wipe();
             old.put(code[0], code[1], 77);
-            CHECKS.due(call("put", code[0], code[1], 77) + " after wipe", rowText(old),
+            CHECKS.due(Samples.call("put", code[0], code[1], 77) + " after wipe", Samples.rowText(old),
                 Model.codeword(code[0], code[1], 77));
         }
     }
 
     private static void promise11Add() {
         SelfEndingCodes x = new SelfEndingCodes();
-        for (long n : NO_NUMBERS) {
-            CHECKS.illegal(call("add", n), () -> x.add(n));
+        for (long n : Samples.NO_NUMBERS) {
+            CHECKS.illegal(Samples.call("add", n), () -> x.add(n));
         }
         CHECKS.due("add(1)", x.add(1), 1);
         CHECKS.due("add(2^62)", x.add(TOP), 2);
         CHECKS.due("add(1) again", x.add(1), 3);
-        CHECKS.due("list", listText(x), "1 " + TOP + " 1");
+        CHECKS.due("list", Samples.listText(x), "1 " + TOP + " 1");
         for (int i = 4; i <= 100; i++) {
             CHECKS.due("add() number " + i, x.add(i), i);
         }
         CHECKS.due("add() number 101", x.add(5), -1);
-        for (long n : NO_NUMBERS) {
-            CHECKS.illegal(call("add", n) + " to a full list", () -> x.add(n));
+        for (long n : Samples.NO_NUMBERS) {
+            CHECKS.illegal(Samples.call("add", n) + " to a full list", () -> x.add(n));
         }
         CHECKS.due("the last after that", x.get(99), 100);
         CHECKS.due("clear() after that", x.clear(), 100);
     }
 
     private static void promise12Get() {
-        SelfEndingCodes x = withList(9, 8, TOP);
+        SelfEndingCodes x = Samples.withList(9, 8, TOP);
         CHECKS.due("get(0)", x.get(0), 9);
         CHECKS.due("get(1)", x.get(1), 8);
         CHECKS.due("get(2)", x.get(2), TOP);
         for (int i : new int[] {-1, 3, 99, 100, Integer.MIN_VALUE, Integer.MAX_VALUE}) {
-            CHECKS.outOfBounds(call("get", i), () -> x.get(i));
+            CHECKS.outOfBounds(Samples.call("get", i), () -> x.get(i));
         }
         x.clear();
         CHECKS.outOfBounds("get(0) after clear", () -> x.get(0));
     }
 
     private static void promise13Clear() {
-        SelfEndingCodes x = withList(4, 5);
+        SelfEndingCodes x = Samples.withList(4, 5);
         x.put(1, 0, 9);
         x.seek(3);
         CHECKS.due("clear()", x.clear(), 2);
         CHECKS.due("clear() again", x.clear(), 0);
-        CHECKS.due("row after clear()", rowText(x), "0001001");
+        CHECKS.due("row after clear()", Samples.rowText(x), "0001001");
         CHECKS.due("place after clear()", x.place(), 3);
         CHECKS.due("add() after clear()", x.add(6), 1);
         CHECKS.due("get(0) after clear()", x.get(0), 6);
     }
 
     private static void promise14Total() {
-        SelfEndingCodes x = withList(1, 5, 9, 200);
+        SelfEndingCodes x = Samples.withList(1, 5, 9, 200);
         CHECKS.due("total(5, 10)", x.total(5, 10), 37);
         CHECKS.due("total(0, 0)", x.total(0, 0), 215);
         CHECKS.due("total(1, 0)", x.total(1, 0), 28);
         CHECKS.due("total of nothing", new SelfEndingCodes().total(2, 0), 0);
-        CHECKS.due("total(0, 0) of 2^62", withList(TOP).total(0, 0), TOP);
-        CHECKS.due("total(0, 0) of 2^62 - 1 and 1", withList(TOP - 1, 1).total(0, 0), TOP);
-        CHECKS.due("total(0, 0) of 2^62 - 2 and 1", withList(TOP - 2, 1).total(0, 0), TOP - 1);
-        CHECKS.due("total(0, 0) of 2^62 - 1 and 2", withList(TOP - 1, 2).total(0, 0), TOP);
-        CHECKS.due("total(0, 0) of 2^62 twice", withList(TOP, TOP).total(0, 0), TOP);
-        CHECKS.due("total(0, 0) of 2^62 four times", withList(TOP, TOP, TOP, TOP).total(0, 0), TOP);
-        CHECKS.due("total(0, 0) of 2^62 five times and 1", withList(TOP, TOP, TOP, TOP, TOP, 1).total(0, 0), TOP);
-        CHECKS.due("total(5, 2) of 2^62 twice", withList(TOP, TOP).total(5, 2), TOP);
-        CHECKS.due("total(5, 3) of 2^62 twice", withList(TOP, TOP).total(5, 3), 2 * ((TOP - 1) / 3 + 2));
-        CHECKS.due("total(1, 0) of 2^62 twice", withList(TOP, TOP).total(1, 0), 250);
+        CHECKS.due("total(0, 0) of 2^62", Samples.withList(TOP).total(0, 0), TOP);
+        CHECKS.due("total(0, 0) of 2^62 - 1 and 1", Samples.withList(TOP - 1, 1).total(0, 0), TOP);
+        CHECKS.due("total(0, 0) of 2^62 - 2 and 1", Samples.withList(TOP - 2, 1).total(0, 0), TOP - 1);
+        CHECKS.due("total(0, 0) of 2^62 - 1 and 2", Samples.withList(TOP - 1, 2).total(0, 0), TOP);
+        CHECKS.due("total(0, 0) of 2^62 twice", Samples.withList(TOP, TOP).total(0, 0), TOP);
+        CHECKS.due("total(0, 0) of 2^62 four times", Samples.withList(TOP, TOP, TOP, TOP).total(0, 0), TOP);
+        CHECKS.due("total(0, 0) of 2^62 five times and 1", Samples.withList(TOP, TOP, TOP, TOP, TOP, 1).total(0, 0), TOP);
+        CHECKS.due("total(5, 2) of 2^62 twice", Samples.withList(TOP, TOP).total(5, 2), TOP);
+        CHECKS.due("total(5, 3) of 2^62 twice", Samples.withList(TOP, TOP).total(5, 3), 2 * ((TOP - 1) / 3 + 2));
+        CHECKS.due("total(1, 0) of 2^62 twice", Samples.withList(TOP, TOP).total(1, 0), 250);
         SelfEndingCodes most = new SelfEndingCodes();
         for (int i = 0; i < 100; i++) {
             most.add(TOP);
         }
         CHECKS.due("total(0, 0) of 2^62 a hundred times", most.total(0, 0), TOP);
         CHECKS.due("total(7, 1) of 2^62 a hundred times", most.total(7, 1), 12400);
-        for (int[] code : NO_CODES) {
-            CHECKS.illegal(call("total", code[0], code[1]), () -> x.total(code[0], code[1]));
+        for (int[] code : Samples.NO_CODES) {
+            CHECKS.illegal(Samples.call("total", code[0], code[1]), () -> x.total(code[0], code[1]));
         }
-        CHECKS.due("list after total()", listText(x), "1 5 9 200");
+        CHECKS.due("list after total()", Samples.listText(x), "1 5 9 200");
     }
 
     private static void promise15Best() {
@@ -591,119 +527,117 @@ public final class PromisesTest {
             {3, 3, 3, 3, 70000}, {500, 501, 502}, {1, 1, 1, 2}, {65536, 65537}, {1L << 40, 1L << 41},
         };
         for (long[] numbers : lists) {
-            SelfEndingCodes x = withList(numbers);
+            SelfEndingCodes x = Samples.withList(numbers);
             Model model = new Model();
             for (long n : numbers) {
                 model.add(n);
             }
             for (int[] tried : new int[][] {{5, 1}, {5, 2}, {5, 37}, {5, 499}, {5, 500},
                 {6, 0}, {6, 1}, {6, 7}, {6, 40}, {7, 1}, {7, 2}, {7, 9}, {7, 16}}) {
-                CHECKS.due(call("best", tried[0], tried[1]) + " of " + listText(x),
+                CHECKS.due(Samples.call("best", tried[0], tried[1]) + " of " + Samples.listText(x),
                     x.best(tried[0], tried[1]), model.best(tried[0], tried[1]));
             }
         }
-        SelfEndingCodes x = withList(1, 5, 9, 200);
+        SelfEndingCodes x = Samples.withList(1, 5, 9, 200);
         CHECKS.due("best(5, 500)", x.best(5, 500), 46);
         CHECKS.due("best(6, 40)", x.best(6, 40), 1);
         CHECKS.due("best(7, 16)", x.best(7, 16), 4);
         CHECKS.due("best(5, 500) of nothing", new SelfEndingCodes().best(5, 500), 1);
         CHECKS.due("best(6, 40) of nothing", new SelfEndingCodes().best(6, 40), 0);
-        CHECKS.due("best(5, 2) where both are 2^62", withList(TOP, TOP, TOP).best(5, 2), 1);
+        CHECKS.due("best(5, 2) where both are 2^62", Samples.withList(TOP, TOP, TOP).best(5, 2), 1);
         for (int[] wrong : new int[][] {{5, 0}, {5, -1}, {5, 501}, {5, 1000000}, {5, 1000001}, {6, -1}, {6, 41},
             {7, 0}, {7, 17}, {4, 0}, {0, 0}, {4, 1}, {8, 1}, {-1, 1}, {Integer.MAX_VALUE, 1}, {7, Integer.MAX_VALUE}}) {
-            CHECKS.illegal(call("best", wrong[0], wrong[1]), () -> x.best(wrong[0], wrong[1]));
+            CHECKS.illegal(Samples.call("best", wrong[0], wrong[1]), () -> x.best(wrong[0], wrong[1]));
         }
     }
 
     private static void promise16PutAll() {
-        SelfEndingCodes x = withList(1, 5, 9);
+        SelfEndingCodes x = Samples.withList(1, 5, 9);
         x.push(-1L, 2);
         CHECKS.due("putAll(1, 0)", x.putAll(1, 0), 3);
-        CHECKS.due("putAll(1, 0) writes", rowText(x), "11" + "1" + "00101" + "0001001");
+        CHECKS.due("putAll(1, 0) writes", Samples.rowText(x), "11" + "1" + "00101" + "0001001");
         CHECKS.due("place() after putAll", x.place(), 0);
-        CHECKS.due("list after putAll", listText(x), "1 5 9");
+        CHECKS.due("list after putAll", Samples.listText(x), "1 5 9");
         CHECKS.due("putAll of nothing", new SelfEndingCodes().putAll(7, 16), 0);
-        SelfEndingCodes long2nd = withList(10, 5000, 3);
+        SelfEndingCodes long2nd = Samples.withList(10, 5000, 3);
         CHECKS.due("putAll(0, 0) ends where there is no room", long2nd.putAll(0, 0), 1);
-        CHECKS.due("row then", rowText(long2nd), "1111111110");
-        CHECKS.due("list then", listText(long2nd), "10 5000 3");
-        SelfEndingCodes long1st = withList(TOP, 3);
+        CHECKS.due("row then", Samples.rowText(long2nd), "1111111110");
+        CHECKS.due("list then", Samples.listText(long2nd), "10 5000 3");
+        SelfEndingCodes long1st = Samples.withList(TOP, 3);
         CHECKS.due("putAll(5, 7) without room for the first", long1st.putAll(5, 7), 0);
         CHECKS.due("size() then", long1st.size(), 0);
-        SelfEndingCodes exact = withList(4000, 96, 1);
+        SelfEndingCodes exact = Samples.withList(4000, 96, 1);
         CHECKS.due("putAll(0, 0) to the last bit", exact.putAll(0, 0), 2);
         CHECKS.due("size() then", exact.size(), 4096);
         CHECKS.due("putAll(0, 0) to a full row", exact.putAll(0, 0), 0);
-        for (int[] code : NO_CODES) {
-            CHECKS.illegal(call("putAll", code[0], code[1]), () -> x.putAll(code[0], code[1]));
+        for (int[] code : Samples.NO_CODES) {
+            CHECKS.illegal(Samples.call("putAll", code[0], code[1]), () -> x.putAll(code[0], code[1]));
         }
         CHECKS.due("size() after putAlls that throw", x.size(), 15);
     }
 
     private static void promise17TakeAll() {
-        SelfEndingCodes x = withRow("11" + "1" + "00101" + "0001001" + "001");
+        SelfEndingCodes x = Samples.withRow("11" + "1" + "00101" + "0001001" + "001");
         x.add(77);
         x.seek(2);
         CHECKS.due("takeAll(1, 0)", x.takeAll(1, 0), 3);
-        CHECKS.due("list then", listText(x), "1 5 9");
+        CHECKS.due("list then", Samples.listText(x), "1 5 9");
         CHECKS.due("place() then", x.place(), 15);
         CHECKS.due("takeAll(1, 0) where none stands", x.takeAll(1, 0), 0);
-        CHECKS.due("list then", listText(x), "");
+        CHECKS.due("list then", Samples.listText(x), "");
         CHECKS.due("place() then", x.place(), 15);
         CHECKS.due("size() then", x.size(), 18);
-        SelfEndingCodes many = withRow("0".repeat(120));
+        SelfEndingCodes many = Samples.withRow("0".repeat(120));
         CHECKS.due("takeAll(0, 0) of 120", many.takeAll(0, 0), 100);
         CHECKS.due("place() then", many.place(), 100);
         CHECKS.due("takeAll(0, 0) of the others", many.takeAll(0, 0), 20);
         CHECKS.due("clear() then", many.clear(), 20);
-        for (int[] code : CODES) {
-            SelfEndingCodes all = withList(1, 2, 3, 40, 500);
+        for (int[] code : Samples.CODES) {
+            SelfEndingCodes all = Samples.withList(1, 2, 3, 40, 500);
             int put = all.putAll(code[0], code[1]);
             all.clear();
-            CHECKS.due(call("takeAll", code[0], code[1]), all.takeAll(code[0], code[1]), put);
-            CHECKS.due("list then", listText(all), "1 2 3 40 500");
+            CHECKS.due(Samples.call("takeAll", code[0], code[1]), all.takeAll(code[0], code[1]), put);
+            CHECKS.due("list then", Samples.listText(all), "1 2 3 40 500");
             CHECKS.due("place() then", all.place(), all.size());
         }
-        SelfEndingCodes kept = withRow("1111");
+        SelfEndingCodes kept = Samples.withRow("1111");
         kept.add(6);
-        for (int[] code : NO_CODES) {
-            CHECKS.illegal(call("takeAll", code[0], code[1]), () -> kept.takeAll(code[0], code[1]));
+        for (int[] code : Samples.NO_CODES) {
+            CHECKS.illegal(Samples.call("takeAll", code[0], code[1]), () -> kept.takeAll(code[0], code[1]));
         }
-        CHECKS.due("list after takeAlls that throw", listText(kept), "6");
+        CHECKS.due("list after takeAlls that throw", Samples.listText(kept), "6");
         CHECKS.due("place() after takeAlls that throw", kept.place(), 0);
     }
 
     private static void promise18Count() {
-        SelfEndingCodes x = new SelfEndingCodes();
-        for (int[] code : CODES) {
+        for (int[] code : Samples.CODES) {
             int kind = code[0];
             int p = code[1];
             Model model = new Model();
             long sum = 0;
             for (int length = 0; length <= 200; length++) {
-                CHECKS.due(call("count", kind, p, length), x.count(kind, p, length), model.count(kind, p, length));
-                sum += x.count(kind, p, length);
+                CHECKS.due(Samples.call("count", kind, p, length), fresh().count(kind, p, length), model.count(kind, p, length));
+                sum += fresh().count(kind, p, length);
             }
             if (kind != 0 && kind != 5) {
-                CHECKS.due(call("all counts", kind, p), sum, TOP);
+                CHECKS.due(Samples.call("all counts", kind, p), sum, TOP);
             }
             for (int length : new int[] {-1, 201, Integer.MIN_VALUE, Integer.MAX_VALUE}) {
-                CHECKS.illegal(call("count", kind, p, length), () -> x.count(kind, p, length));
+                CHECKS.illegal(Samples.call("count", kind, p, length), () -> fresh().count(kind, p, length));
             }
         }
         countsByTrying();
-        CHECKS.due("count(1, 0, 125)", x.count(1, 0, 125), 1);
-        CHECKS.due("count(1, 0, 123)", x.count(1, 0, 123), 1L << 61);
-        CHECKS.due("count(4, 0, 90)", x.count(4, 0, 90), TOP - 2880067194370816120L + 1);
-        CHECKS.due("count(4, 0, 91)", x.count(4, 0, 91), 0);
-        for (int[] code : NO_CODES) {
-            CHECKS.illegal(call("count", code[0], code[1], 3), () -> x.count(code[0], code[1], 3));
+        CHECKS.due("count(1, 0, 125)", fresh().count(1, 0, 125), 1);
+        CHECKS.due("count(1, 0, 123)", fresh().count(1, 0, 123), 1L << 61);
+        CHECKS.due("count(4, 0, 90)", fresh().count(4, 0, 90), TOP - 2880067194370816120L + 1);
+        CHECKS.due("count(4, 0, 91)", fresh().count(4, 0, 91), 0);
+        for (int[] code : Samples.NO_CODES) {
+            CHECKS.illegal(Samples.call("count", code[0], code[1], 3), () -> fresh().count(code[0], code[1], 3));
         }
     }
 
     private static void countsByTrying() {
-        SelfEndingCodes x = new SelfEndingCodes();
-        for (int[] code : CODES) {
+        for (int[] code : Samples.CODES) {
             int[] many = new int[200];
             for (long n = 1; n <= 3000; n++) {
                 int length = (int) Math.min(199, Model.length(code[0], code[1], n));
@@ -711,66 +645,64 @@ public final class PromisesTest {
             }
             long after = Model.length(code[0], code[1], 3001);
             for (int length = 0; length < Math.min(199, after); length++) {
-                CHECKS.due(call("count by trying", code[0], code[1], length),
-                    x.count(code[0], code[1], length), many[length]);
+                CHECKS.due(Samples.call("count by trying", code[0], code[1], length),
+                    fresh().count(code[0], code[1], length), many[length]);
             }
         }
     }
 
     private static void promise19First() {
-        SelfEndingCodes x = new SelfEndingCodes();
-        for (int[] code : CODES) {
+        for (int[] code : Samples.CODES) {
             int kind = code[0];
             int p = code[1];
             Model model = new Model();
             for (int length = 0; length <= 200; length++) {
-                long first = x.first(kind, p, length);
-                CHECKS.due(call("first", kind, p, length), first, model.first(kind, p, length));
+                long first = fresh().first(kind, p, length);
+                CHECKS.due(Samples.call("first", kind, p, length), first, model.first(kind, p, length));
                 if (first != -1) {
-                    CHECKS.due(call("length of the first", kind, p, length), x.length(kind, p, first), length);
+                    CHECKS.due(Samples.call("length of the first", kind, p, length), fresh().length(kind, p, first), length);
                 }
                 if (first > 1) {
-                    boolean shorter = x.length(kind, p, first - 1) < length;
-                    CHECKS.due(call("before the first is shorter", kind, p, length), shorter, true);
+                    boolean shorter = fresh().length(kind, p, first - 1) < length;
+                    CHECKS.due(Samples.call("before the first is shorter", kind, p, length), shorter, true);
                 }
             }
             for (int length : new int[] {-1, 201, Integer.MIN_VALUE, Integer.MAX_VALUE}) {
-                CHECKS.illegal(call("first", kind, p, length), () -> x.first(kind, p, length));
+                CHECKS.illegal(Samples.call("first", kind, p, length), () -> fresh().first(kind, p, length));
             }
         }
-        CHECKS.due("first(0, 0, 0)", x.first(0, 0, 0), -1);
-        CHECKS.due("first(0, 0, 200)", x.first(0, 0, 200), 200);
-        CHECKS.due("first(1, 0, 4)", x.first(1, 0, 4), -1);
-        CHECKS.due("first(1, 0, 125)", x.first(1, 0, 125), TOP);
-        CHECKS.due("first(1, 0, 127)", x.first(1, 0, 127), -1);
-        CHECKS.due("first(5, 1000000, 200)", x.first(5, 1000000, 200), 179048577L);
-        for (int[] code : NO_CODES) {
-            CHECKS.illegal(call("first", code[0], code[1], 3), () -> x.first(code[0], code[1], 3));
+        CHECKS.due("first(0, 0, 0)", fresh().first(0, 0, 0), -1);
+        CHECKS.due("first(0, 0, 200)", fresh().first(0, 0, 200), 200);
+        CHECKS.due("first(1, 0, 4)", fresh().first(1, 0, 4), -1);
+        CHECKS.due("first(1, 0, 125)", fresh().first(1, 0, 125), TOP);
+        CHECKS.due("first(1, 0, 127)", fresh().first(1, 0, 127), -1);
+        CHECKS.due("first(5, 1000000, 200)", fresh().first(5, 1000000, 200), 179048577L);
+        for (int[] code : Samples.NO_CODES) {
+            CHECKS.illegal(Samples.call("first", code[0], code[1], 3), () -> fresh().first(code[0], code[1], 3));
         }
     }
 
     private static void promise20Begun() {
-        SelfEndingCodes x = new SelfEndingCodes();
-        for (int[] code : CODES) {
+        for (int[] code : Samples.CODES) {
             int kind = code[0];
             int p = code[1];
             Model model = new Model();
             for (int length = 0; length <= 62; length++) {
-                CHECKS.due(call("begun", kind, p, length), x.begun(kind, p, length), model.begun(kind, p, length));
+                CHECKS.due(Samples.call("begun", kind, p, length), fresh().begun(kind, p, length), model.begun(kind, p, length));
             }
             for (int length = 0; length <= 11; length++) {
-                CHECKS.due(call("begun by trying", kind, p, length), x.begun(kind, p, length),
+                CHECKS.due(Samples.call("begun by trying", kind, p, length), fresh().begun(kind, p, length),
                     begunByTrying(kind, p, length));
             }
             for (int length : new int[] {-1, 63, 200, Integer.MIN_VALUE, Integer.MAX_VALUE}) {
-                CHECKS.illegal(call("begun", kind, p, length), () -> x.begun(kind, p, length));
+                CHECKS.illegal(Samples.call("begun", kind, p, length), () -> fresh().begun(kind, p, length));
             }
         }
-        CHECKS.due("begun(0, 0, 62)", x.begun(0, 0, 62), TOP - 1);
-        CHECKS.due("begun(1, 0, 3)", x.begun(1, 0, 3), 6);
-        CHECKS.due("begun(7, 1, 4)", x.begun(7, 1, 4), 10);
-        for (int[] code : NO_CODES) {
-            CHECKS.illegal(call("begun", code[0], code[1], 3), () -> x.begun(code[0], code[1], 3));
+        CHECKS.due("begun(0, 0, 62)", fresh().begun(0, 0, 62), TOP - 1);
+        CHECKS.due("begun(1, 0, 3)", fresh().begun(1, 0, 3), 6);
+        CHECKS.due("begun(7, 1, 4)", fresh().begun(7, 1, 4), 10);
+        for (int[] code : Samples.NO_CODES) {
+            CHECKS.illegal(Samples.call("begun", code[0], code[1], 3), () -> fresh().begun(code[0], code[1], 3));
         }
     }
 
@@ -795,22 +727,21 @@ public final class PromisesTest {
         CHECKS.due("fold(1 - 2^61)", x.fold(1 - half), TOP - 1);
         for (long v : new long[] {half + 1, -half, -half - 1, TOP, -TOP, TOP + 1, -TOP - 1,
             Long.MAX_VALUE, Long.MIN_VALUE, Long.MIN_VALUE + 1}) {
-            CHECKS.illegal(call("fold", v), () -> x.fold(v));
+            CHECKS.illegal(Samples.call("fold", v), () -> x.fold(v));
         }
     }
 
     private static void promise22Unfold() {
-        SelfEndingCodes x = new SelfEndingCodes();
-        CHECKS.due("unfold(1)", x.unfold(1), 0);
-        CHECKS.due("unfold(2)", x.unfold(2), 1);
-        CHECKS.due("unfold(3)", x.unfold(3), -1);
-        CHECKS.due("unfold(2^62)", x.unfold(TOP), TOP / 2);
-        CHECKS.due("unfold(2^62 - 1)", x.unfold(TOP - 1), 1 - TOP / 2);
+        CHECKS.due("unfold(1)", fresh().unfold(1), 0);
+        CHECKS.due("unfold(2)", fresh().unfold(2), 1);
+        CHECKS.due("unfold(3)", fresh().unfold(3), -1);
+        CHECKS.due("unfold(2^62)", fresh().unfold(TOP), TOP / 2);
+        CHECKS.due("unfold(2^62 - 1)", fresh().unfold(TOP - 1), 1 - TOP / 2);
         for (long n : numbersToTry()) {
-            CHECKS.due(call("fold of unfold", n), x.fold(x.unfold(n)), n);
+            CHECKS.due(Samples.call("fold of unfold", n), fresh().fold(fresh().unfold(n)), n);
         }
-        for (long n : NO_NUMBERS) {
-            CHECKS.illegal(call("unfold", n), () -> x.unfold(n));
+        for (long n : Samples.NO_NUMBERS) {
+            CHECKS.illegal(Samples.call("unfold", n), () -> fresh().unfold(n));
         }
     }
 }
